@@ -1,0 +1,275 @@
+/** Promises 1 to 10: what is told. */
+public final class ToldTest {
+    private static final Due D = Due.begin();
+    private static final String SEVEN = "guest 20 7;widow 9;general 14 14 1;child 40 6;saint 81 80;guest;widow 30 2 3";
+
+    public static void main(String[] args) {
+        aNewObject();
+        letters();
+        faults();
+        faultsBeyondBounds();
+        faultsByWhatWasTold();
+        houses();
+        laterHouses();
+        houseRefused();
+        persons();
+        griefs();
+        takenAs();
+        pairs();
+        D.end("ToldTest");
+    }
+
+    private static void aNewObject() {
+        GriefDoors x = new GriefDoors();
+        for (int what = 0; what < 10; what++) {
+            D.due(1, "count(" + what + ")", x.count(what), 0);
+        }
+        D.due(1, "person(0, 0)", x.person(0, 0), GriefDoors.UNKNOWN);
+        for (int drawer = 0; drawer < 4; drawer++) {
+            D.due(1, "drop(" + drawer + ")", x.drop(drawer), GriefDoors.NULL);
+        }
+        D.due(1, "undo()", x.undo(), GriefDoors.NOT);
+        D.due(1, "back(0)", x.back(0), GriefDoors.NOT);
+        D.due(1, "back(1)", x.back(1), GriefDoors.NOT);
+    }
+
+    private static void letters() {
+        GriefDoors x = new GriefDoors();
+        D.due(2, "write(-1)", x.write(-1), GriefDoors.OUTSIDE);
+        D.due(2, "write(256)", x.write(256), GriefDoors.OUTSIDE);
+        D.due(2, "write(0)", x.write(0), 1);
+        D.due(2, "write(255)", x.write(255), 2);
+        for (int k = 3; k <= 200; k++) {
+            D.due(2, "write, letter " + k, x.write('a'), k);
+        }
+        D.due(2, "write, letter 201", x.write('a'), GriefDoors.FULL);
+        D.due(2, "write(256) where it is full", x.write(256), GriefDoors.OUTSIDE);
+        D.due(2, "count(9)", x.count(9), 200);
+        D.due(3, "erase()", x.erase(), 200);
+        D.due(3, "erase() again", x.erase(), 0);
+        D.due(3, "count(9)", x.count(9), 0);
+        D.due(3, "write behind erase", x.write('a'), 1);
+    }
+
+    private static void fault(GriefDoors x, String text, int want) {
+        D.due(4, "fault() of '" + text + "'", Due.faultOf(x, text), want);
+    }
+
+    private static void faults() {
+        GriefDoors x = new GriefDoors();
+        fault(x, "", 0);
+        fault(x, "   ", 3);
+        fault(x, "house", -1);
+        fault(x, "  house  ", -1);
+        fault(x, "house;", 6);
+        fault(x, "house; ", 7);
+        fault(x, ";house", 0);
+        fault(x, "house;;house", 6);
+        fault(x, "house ; house", -1);
+        fault(x, "house.", 5);
+        fault(x, "house 1", 6);
+        fault(x, "house house", 6);
+        fault(x, "House", 0);
+        fault(x, "hous", 0);
+        fault(x, "houses", 0);
+        fault(x, "houseguest", 0);
+        fault(x, "hou se", 0);
+        fault(x, "guest\t1", 5);
+        fault(x, "guest \u00e9", 6);
+        fault(x, "12", 0);
+        fault(x, "guest", -1);
+        fault(x, "guest20 7", -1);
+        fault(x, "guest1;widow1;general1;child1;saint1", -1);
+        fault(x, "butler 3", 0);
+        fault(x, "guest 5 butler", 8);
+        fault(x, "guest 5 guest", 8);
+        fault(x, "guest 5,6", 7);
+        fault(x, "guest 5;pai", 8);
+    }
+
+    private static void faultsBeyondBounds() {
+        GriefDoors x = new GriefDoors();
+        fault(x, "guest 0", 6);
+        fault(x, "guest 00", 6);
+        fault(x, "guest 01 1 99", -1);
+        fault(x, "guest 100", 6);
+        fault(x, "guest 001", 6);
+        fault(x, "guest 1 2 3", -1);
+        fault(x, "guest 1 2 3 4", 12);
+        fault(x, "saint 1 2 0", 10);
+        fault(x, "saint -1", 6);
+        String clauses = "house";
+        for (int k = 1; k < 20; k++) {
+            clauses = clauses + ";house";
+        }
+        fault(x, clauses, -1);
+        fault(x, clauses + ";", 119);
+        fault(x, clauses + " ;house", 120);
+        fault(x, clauses + " guest", 120);
+    }
+
+    private static void faultsByWhatWasTold() {
+        GriefDoors x = new GriefDoors();
+        fault(x, "pair 0 1", 5);
+        fault(x, "guest;pair 0", 12);
+        fault(x, "guest;pair 0 1", 13);
+        fault(x, "guest;pair", 10);
+        fault(x, "guest;guest;pair 0 0", 19);
+        fault(x, "guest;guest;pair 0 2", 19);
+        fault(x, "guest;guest;pair 000 1", 17);
+        fault(x, "guest;guest;pair 1 00", -1);
+        fault(x, "guest;guest;pair 0 1 0", 21);
+        fault(x, "guest;guest;house;pair 0 1", 23);
+        fault(x, "guest;pair 0 1;guest", 13);
+        fault(x, "guest;guest;guest;guest;guest;guest;guest", -1);
+        fault(x, "guest;guest;guest;guest;guest;guest;guest;saint 3", 42);
+        fault(x, "guest;guest;guest;guest;guest;guest;guest;house;saint 3", -1);
+        GriefDoors seven = Due.houseOf(SEVEN);
+        fault(seven, "guest", 0);
+        fault(seven, "pair 6 0", -1);
+        fault(seven, "pair 7 0", 5);
+        fault(seven, "house;guest", -1);
+        fault(seven, "house;pair 0 1", 11);
+        for (int k = 0; k < 11; k++) {
+            seven.pair(0, 1);
+        }
+        fault(seven, "pair 0 1", -1);
+        fault(seven, "pair 0 1;pair 0 1", 9);
+        seven.pair(0, 1);
+        fault(seven, "pair 9 9", 0);
+        fault(seven, "house;guest;guest;pair 0 1", -1);
+        seven.unpair();
+        fault(seven, "pair 0 1", -1);
+    }
+
+    private static void houses() {
+        GriefDoors x = new GriefDoors();
+        D.due(5, "house() of three", Due.tell(x, "guest 5 7 6;widow 9;pair 1 0"), 3);
+        D.due(5, "count(0)", x.count(0), 2);
+        D.due(5, "count(1)", x.count(1), 1);
+        D.due(5, "count(9)", x.count(9), 0);
+        D.due(5, "grief(0, 1)", x.grief(0, 1), 7);
+        D.due(5, "wrong(), as of like LOADS the lesser is ahead", x.wrong(), 1);
+        D.due(5, "house() of one more", Due.tell(x, "child 40"), 1);
+        D.due(5, "count(0)", x.count(0), 3);
+        D.due(5, "count(1)", x.count(1), 1);
+        D.due(5, "house() in the midst", Due.tell(x, "guest 1;house;saint 8"), 3);
+        D.due(5, "count(0)", x.count(0), 1);
+        D.due(5, "count(1)", x.count(1), 0);
+        D.due(5, "person(0, 0)", x.person(0, 0), 4);
+        D.due(5, "grief(0, 1)", x.grief(0, 1), GriefDoors.NONE);
+        D.due(5, "house() of house", Due.tell(x, "house"), 1);
+        D.due(5, "count(0)", x.count(0), 0);
+    }
+
+    private static void laterHouses() {
+        GriefDoors x = Due.houseOf("guest 50 4;widow 9;pair 0 1");
+        x.pair(1, 0);
+        x.lent(2);
+        x.grieve(1, 30);
+        x.comfort(0);
+        x.keep(0);
+        x.keep(1);
+        x.seen(0, 0, 1);
+        x.drawer(2, 3);
+        D.due(5, "house()", Due.tell(x, "child 3"), 1);
+        D.due(5, "grief(0, 0) as told", x.grief(0, 0), 50);
+        D.due(5, "grief(0, 1) as told", x.grief(0, 1), 4);
+        D.due(5, "grief(1, 0) as told", x.grief(1, 0), 9);
+        D.due(5, "grief(1, 1) as told", x.grief(1, 1), GriefDoors.NONE);
+        D.due(5, "pairs stay", x.count(1), 2);
+        D.due(5, "LENT 0", x.count(2), 0);
+        D.due(5, "nothing SEEN", x.count(6), 0);
+        D.due(5, "no drawers", x.count(7), 0);
+        D.due(5, "take from one that there was", x.take(2, 0, 0), GriefDoors.NULL);
+        D.due(5, "undone", x.undo(), GriefDoors.NOT);
+        D.due(5, "back(0)", x.back(0), GriefDoors.NOT);
+        D.due(5, "back(1)", x.back(1), GriefDoors.NOT);
+    }
+
+    private static void houseRefused() {
+        GriefDoors x = Due.houseOf("guest 50 4;widow 9;pair 0 1");
+        x.lent(2);
+        x.seen(1, 1, 1);
+        x.keep(1);
+        x.drawer(2, 3);
+        x.put(2, 1, 0, 5);
+        Due.write(x, "house;guest 3;butler");
+        String before = Due.stateOf(x);
+        D.due(5, "house() with a fault", x.house(), GriefDoors.NOT);
+        D.due(5, "the state behind it", Due.stateOf(x), before);
+        D.due(5, "back(1)", x.back(1), 2);
+        x.erase();
+        D.due(5, "house() of nothing", x.house(), GriefDoors.NOT);
+    }
+
+    private static void persons() {
+        GriefDoors x = Due.houseOf(SEVEN);
+        int[][] due = {
+            {0, 27, 2, 3, 4}, {1, 18, 1, 1, 5}, {2, 34, 3, 3, 3}, {3, 40, 2, 6, 1},
+            {4, 40, 2, 0, 2}, {0, 0, 0, 3, -1}, {1, 65, 3, 1, 0}
+        };
+        for (int one = 0; one < 7; one++) {
+            for (int what = 0; what < 5; what++) {
+                D.due(6, "person(" + one + ", " + what + ")", x.person(one, what), due[one][what]);
+            }
+        }
+        D.due(6, "person(0, 5)", x.person(0, 5), GriefDoors.OUTSIDE);
+        D.due(6, "person(0, -1)", x.person(0, -1), GriefDoors.OUTSIDE);
+        D.due(6, "person(7, 5)", x.person(7, 5), GriefDoors.UNKNOWN);
+        D.due(6, "person(-1, 0)", x.person(-1, 0), GriefDoors.UNKNOWN);
+        GriefDoors edges = Due.houseOf("general 4;general 4 4;saint 1;saint 3;child;guest 3;guest 13");
+        int[] loads = {4, 13, 0, 1, 0, 3, 13};
+        int[] places = {2, 0, -1, 4, -1, 3, 1};
+        for (int one = 0; one < 7; one++) {
+            D.due(6, "LOAD of " + one, edges.person(one, 1), loads[one]);
+            D.due(6, "place of " + one, edges.person(one, 4), places[one]);
+        }
+    }
+
+    private static void griefs() {
+        GriefDoors x = Due.houseOf("general 14 99 1;child 6;saint");
+        int[][] due = {{14, 99, 1}, {6, -1, -1}, {-1, -1, -1}};
+        for (int one = 0; one < 3; one++) {
+            for (int k = 0; k < 3; k++) {
+                D.due(7, "grief(" + one + ", " + k + ")", x.grief(one, k), due[one][k]);
+            }
+        }
+        D.due(7, "grief(0, 3)", x.grief(0, 3), GriefDoors.OUTSIDE);
+        D.due(7, "grief(0, -1)", x.grief(0, -1), GriefDoors.OUTSIDE);
+        D.due(7, "grief(3, 3)", x.grief(3, 3), GriefDoors.UNKNOWN);
+    }
+
+    private static void takenAs() {
+        GriefDoors x = Due.houseOf("guest 20 7;widow 20 7;general 20 7;child 20 7;saint 20 7");
+        int[] loads = {27, 47, 32, 20, 10};
+        String[] such = {"110000", "111000", "110100", "100010", "100011"};
+        for (int one = 0; one < 5; one++) {
+            for (int kind = 0; kind < 6; kind++) {
+                int due = such[one].charAt(kind) == '1' ? loads[one] : GriefDoors.NOT;
+                D.due(8, "as(" + one + ", " + kind + ")", x.as(one, kind), due);
+            }
+        }
+        D.due(8, "as(0, 6)", x.as(0, 6), GriefDoors.OUTSIDE);
+        D.due(8, "as(0, -1)", x.as(0, -1), GriefDoors.OUTSIDE);
+        D.due(8, "as(5, 6)", x.as(5, 6), GriefDoors.UNKNOWN);
+    }
+
+    private static void pairs() {
+        GriefDoors x = Due.houseOf("guest 3;guest 2;guest 1");
+        D.due(9, "pair(0, 0)", x.pair(0, 0), GriefDoors.UNKNOWN);
+        D.due(9, "pair(0, 3)", x.pair(0, 3), GriefDoors.UNKNOWN);
+        D.due(9, "pair(-1, 0)", x.pair(-1, 0), GriefDoors.UNKNOWN);
+        for (int k = 1; k <= 12; k++) {
+            D.due(9, "pair " + k, x.pair(2, 1), k);
+        }
+        D.due(9, "pair(0, 0) where it is full", x.pair(0, 0), GriefDoors.UNKNOWN);
+        D.due(9, "a thirteenth", x.pair(0, 1), GriefDoors.FULL);
+        D.due(9, "wrong()", x.wrong(), 12);
+        D.due(10, "unpair()", x.unpair(), 12);
+        D.due(10, "unpair() again", x.unpair(), 0);
+        D.due(10, "count(1)", x.count(1), 0);
+        D.due(10, "wrong()", x.wrong(), 0);
+        D.due(10, "pair behind it", x.pair(0, 1), 1);
+    }
+}
