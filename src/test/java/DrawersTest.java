@@ -212,6 +212,7 @@ public final class DrawersTest {
         for (int what = 0; what < 10; what++) {
             D.due(35, "count(" + what + ")", x.count(what), due[what]);
         }
+        D.due(35, "count(3), LOAD 1", Due.houseOf("guest 1;saint 1;widow 3").count(3), 2);
         D.due(35, "count(10)", x.count(10), GriefDoors.OUTSIDE);
         D.due(35, "count(-1)", x.count(-1), GriefDoors.OUTSIDE);
     }

@@ -12,6 +12,7 @@ public final class ForetoldTest {
         next();
         rooms();
         misread();
+        aFullHouse();
         nothingChanges();
         D.end("ForetoldTest");
     }
@@ -23,6 +24,7 @@ public final class ForetoldTest {
         D.due(17, "behind(0, 2, 0)", x.behind(0, 2, 0), 24);
         D.due(17, "behind(0, 2, 1)", x.behind(0, 2, 1), 2);
         D.due(17, "behind(0, 10, 0)", x.behind(0, 10, 0), 0);
+        D.due(17, "behind(0, 2, 0), where a GRIEF is just gone", Due.houseOf("general 6 7").behind(0, 2, 0), 1);
         D.due(17, "behind(1, 0, 0)", x.behind(1, 0, 0), 396);
         D.due(17, "behind(1, 0, 1)", x.behind(1, 0, 1), 9);
         D.due(17, "behind(1, 60, 0)", x.behind(1, 60, 0), 156);
@@ -227,6 +229,30 @@ public final class ForetoldTest {
         D.due(25, "misread(0, 0, 11, 2)", x.misread(0, 0, 11, 2), GriefDoors.UNKNOWN);
         D.due(25, "misread(0, 7, 0, 0)", x.misread(0, 7, 0, 0), GriefDoors.UNKNOWN);
         D.due(25, "misread(-1, 0, 0, 0)", x.misread(-1, 0, 0, 0), GriefDoors.UNKNOWN);
+    }
+
+    private static void aFullHouse() {
+        GriefDoors x = Due.houseOf("guest 1;guest 2;guest 3;guest 4;guest 5;guest 6;saint");
+        int[] order = {5, 4, 3, 2, 1, 0, -1};
+        for (int k = 0; k < 7; k++) {
+            D.due(18, "enters(" + k + ", 0)", x.enters(k, 0), order[k]);
+        }
+        ranking(x, 0, 0, 1, 2, 3, 4, 5, 6);
+        D.due(22, "lines()", x.lines(), 5040);
+        D.due(23, "next()", x.next(), 1);
+        x.pair(0, 1);
+        x.pair(6, 0);
+        ranking(x, 0, 2, 3, 4, 5, 6, 0, 1);
+        D.due(22, "lines()", x.lines(), 840);
+        D.due(23, "next(): 0 is in the midst of three", x.next(), 2);
+        x.pair(0, 6);
+        ranking(x, 1, 0, 1, 2, 3, 4, 5, 6);
+        D.due(23, "next()", x.next(), GriefDoors.NONE);
+        lodged(x, 21, 1, 0, 0, 0, 0, 0, 0, 0);
+        lodged(x, 7, 3, 0, 1, 2, 2, 1, 0, 0);
+        D.due(35, "count(3)", x.count(3), 6);
+        D.due(35, "count(4)", x.count(4), 21);
+        D.due(35, "count(5)", x.count(5), 6);
     }
 
     private static void nothingChanges() {

@@ -5,6 +5,7 @@ public final class SeenTest {
     public static void main(String[] args) {
         seen();
         kindsOfOne();
+        ofEachItsOwn();
         likeliest();
         asTheyAreNow();
         D.end("SeenTest");
@@ -57,6 +58,18 @@ public final class SeenTest {
         D.due(28, "kinds(2, 2)", x.kinds(2, 2), GriefDoors.UNKNOWN);
         D.due(28, "kinds(0, 2)", x.kinds(0, 2), GriefDoors.OUTSIDE);
         D.due(28, "kinds(0, -1)", x.kinds(0, -1), GriefDoors.OUTSIDE);
+    }
+
+    private static void ofEachItsOwn() {
+        GriefDoors x = Due.houseOf("guest 20 18;guest 20 18");
+        x.seen(1, 0, 5);
+        x.seen(0, 0, 2);
+        D.due(26, "kinds(0, 0)", x.kinds(0, 0), 8);
+        D.due(26, "kinds(1, 0)", x.kinds(1, 0), 2);
+        D.due(26, "kinds(1, 1)", x.kinds(1, 1), 1);
+        D.due(26, "seen(1, 1, 5)", x.seen(1, 1, 5), 3);
+        D.due(26, "kinds(1, 0)", x.kinds(1, 0), 2);
+        D.due(26, "kinds(0, 0)", x.kinds(0, 0), 8);
     }
 
     private static void likeliest() {

@@ -72,6 +72,13 @@ public final class ToldTest {
         fault(x, "House", 0);
         fault(x, "hous", 0);
         fault(x, "houses", 0);
+        fault(x, "youse", 0);
+        fault(x, "guestz", 0);
+        fault(x, "aguest", 0);
+        fault(x, "guest 9:", 7);
+        fault(x, "guest 9/", 7);
+        fault(x, "guest 9{", 7);
+        fault(x, "guest 9`", 7);
         fault(x, "houseguest", 0);
         fault(x, "hou se", 0);
         fault(x, "guest\t1", 5);
@@ -138,6 +145,10 @@ public final class ToldTest {
         seven.pair(0, 1);
         fault(seven, "pair 9 9", 0);
         fault(seven, "house;guest;guest;pair 0 1", -1);
+        String twelve = "house;guest;guest" + ";pair 0 1".repeat(12);
+        fault(seven, twelve, -1);
+        fault(seven, twelve + ";pair 0 1", 17 + 12 * 9 + 1);
+        fault(seven, twelve + ";pair", 17 + 12 * 9 + 1);
         seven.unpair();
         fault(seven, "pair 0 1", -1);
     }
@@ -158,8 +169,21 @@ public final class ToldTest {
         D.due(5, "count(1)", x.count(1), 0);
         D.due(5, "person(0, 0)", x.person(0, 0), 4);
         D.due(5, "grief(0, 1)", x.grief(0, 1), GriefDoors.NONE);
+        pairsTold();
         D.due(5, "house() of house", Due.tell(x, "house"), 1);
         D.due(5, "count(0)", x.count(0), 0);
+    }
+
+    private static void pairsTold() {
+        GriefDoors x = Due.houseOf("guest 9;guest 8;guest 7;pair 2 1;pair 1 0");
+        D.due(5, "wrong()", x.wrong(), 2);
+        D.due(5, "lines()", x.lines(), 1);
+        D.due(5, "ranked(0)", x.ranked(0), 2);
+        D.due(5, "ranked(2)", x.ranked(2), 0);
+        Due.tell(x, "house;guest 9 8 7;guest 8;guest 7;pair 0 2;pair 1 2");
+        D.due(5, "wrong()", x.wrong(), 0);
+        D.due(5, "lines()", x.lines(), 2);
+        D.due(5, "ranked(2)", x.ranked(2), 2);
     }
 
     private static void laterHouses() {
@@ -171,7 +195,9 @@ public final class ToldTest {
         x.keep(0);
         x.keep(1);
         x.seen(0, 0, 1);
-        x.drawer(2, 3);
+        for (int drawer = 0; drawer < 4; drawer++) {
+            x.drawer(drawer, 3);
+        }
         D.due(5, "house()", Due.tell(x, "child 3"), 1);
         D.due(5, "grief(0, 0) as told", x.grief(0, 0), 50);
         D.due(5, "grief(0, 1) as told", x.grief(0, 1), 4);
