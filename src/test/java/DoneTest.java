@@ -85,6 +85,9 @@ public final class DoneTest {
         GriefDoors first = Due.houseOf("guest 9 5 9");
         D.due(13, "comfort(0)", first.comfort(0), 9);
         griefs(13, first, 0, 5, 9, -1);
+        GriefDoors last = Due.houseOf("guest;guest;guest;guest;guest;guest;saint 3 4 5");
+        D.due(13, "comfort(6)", last.comfort(6), 5);
+        griefs(13, last, 6, 3, 4, -1);
         GriefDoors ahead = Due.houseOf("guest 9 1 2");
         ahead.comfort(0);
         griefs(13, ahead, 0, 1, 2, -1);

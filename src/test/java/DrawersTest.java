@@ -142,6 +142,9 @@ public final class DrawersTest {
         x.put(0, 2, 0, 1);
         x.put(0, 1, 2, 0);
         D.due(32, "tidy(0) of a number and a PERSON", x.tidy(0), GriefDoors.CAST);
+        fill(x, 1, 0, 5, 3);
+        x.put(1, 0, 1, 5);
+        D.due(32, "tidy(1), the first one unlike", x.tidy(1), GriefDoors.CAST);
     }
 
     private static void copied() {
