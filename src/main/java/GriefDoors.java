@@ -53,6 +53,8 @@ public final class GriefDoors {
     private final Text text = new Text();
     private final People people = new People();
     private final Pairs pairs = new Pairs();
+    /** PAIRS of texts alone, apart from what pair() and unpair() make of them, since what texts told stays as told. */
+    private final Pairs pairsTold = new Pairs();
     private final Undos undos = new Undos();
     private final Griefs[] keepings = {new Griefs(), new Griefs()};
     private final boolean[] isKept = new boolean[KEEPINGS];
@@ -84,11 +86,11 @@ public final class GriefDoors {
     }
 
     public int fault() {
-        return text.read(people.many, pairs.many);
+        return text.read(people.many, pairsTold.many);
     }
 
     public int house() {
-        if (text.read(people.many, pairs.many) != NONE) {
+        if (text.read(people.many, pairsTold.many) != NONE) {
             return NOT;
         }
         for (int clause = 0; clause < text.clauses; clause++) {
@@ -493,9 +495,9 @@ public final class GriefDoors {
         int at = clause * MOST_GRIEFS;
         if (word == HOUSE_WORD) {
             people.many = 0;
-            pairs.many = 0;
+            pairsTold.many = 0;
         } else if (word == PAIR_WORD) {
-            pairs.append(text.numbers[at], text.numbers[at + 1]);
+            pairsTold.append(text.numbers[at], text.numbers[at + 1]);
         } else {
             people.tell(word, text.numbers, at, text.counts[clause]);
         }
@@ -503,6 +505,7 @@ public final class GriefDoors {
 
     private void beginAsTold() {
         people.now.become(people.told);
+        pairs.become(pairsTold);
         undos.many = 0;
         sights.many = 0;
         for (int k = 0; k < KEEPINGS; k++) {
@@ -953,6 +956,12 @@ public final class GriefDoors {
         int many = 0;
         final int[] first = new int[MOST_PAIRS];
         final int[] second = new int[MOST_PAIRS];
+
+        void become(Pairs other) {
+            many = other.many;
+            System.arraycopy(other.first, 0, first, 0, MOST_PAIRS);
+            System.arraycopy(other.second, 0, second, 0, MOST_PAIRS);
+        }
 
         void append(int a, int b) {
             if (many < MOST_PAIRS) {

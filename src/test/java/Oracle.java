@@ -35,6 +35,7 @@ final class Oracle {
     private StringBuilder text = new StringBuilder();
     private List<One> people = new ArrayList<>();
     private List<int[]> pairs = new ArrayList<>();
+    private List<int[]> pairsOfTexts = new ArrayList<>();
     private List<int[]> sights = new ArrayList<>();
     private List<Was> undos = new ArrayList<>();
     private Was[] kept = new Was[2];
@@ -73,7 +74,7 @@ final class Oracle {
         Token end = new Token(text.length(), "");
         tokens.add(end);
         int there = people.size();
-        int paired = pairs.size();
+        int paired = pairsOfTexts.size();
         List<String> clause = new ArrayList<>();
         for (Token token : tokens) {
             String word = token.word();
@@ -124,9 +125,9 @@ final class Oracle {
             }
             if (clause.get(0).equals("house")) {
                 people.clear();
-                pairs.clear();
+                pairsOfTexts.clear();
             } else if (clause.get(0).equals("pair")) {
-                pairs.add(new int[] {numbers.get(0), numbers.get(1)});
+                pairsOfTexts.add(new int[] {numbers.get(0), numbers.get(1)});
             } else {
                 people.add(new One(KINDS.indexOf(clause.get(0)), numbers));
             }
@@ -134,6 +135,7 @@ final class Oracle {
         for (One one : people) {
             one.griefs = new ArrayList<>(one.told);
         }
+        pairs = new ArrayList<>(pairsOfTexts);
         lent = 0;
         sights.clear();
         undos.clear();

@@ -97,18 +97,32 @@ public final class OracleTest {
     }
 
     private String moreText() {
-        switch (random.nextInt(5)) {
+        switch (random.nextInt(7)) {
             case 0:
                 return "house;" + houseText();
             case 1:
                 return "pair 0 1; pair 1 2";
             case 2:
-                return personText(99) + " ; " + personText(20);
+                return manyPairs();
             case 3:
+                return "house;guest 9;widow 8;child 7;" + manyPairs();
+            case 4:
+                return personText(99) + " ; " + personText(20);
+            case 5:
                 return "house;".repeat(16 + random.nextInt(6)) + "guest";
             default:
                 return personText(99);
         }
+    }
+
+    /** So many that a thirteenth is among them now and then, by what earlier texts told. */
+    private String manyPairs() {
+        StringBuilder text = new StringBuilder("pair 1 0");
+        for (int k = random.nextInt(13); k > 0; k--) {
+            int a = random.nextInt(2);
+            text.append(";pair ").append(a).append(' ').append(1 - a);
+        }
+        return text.toString();
     }
 
     private String spoiled(String text) {

@@ -1,6 +1,7 @@
 /** Promises 1 to 10: what is told. */
 public final class ToldTest {
     private static final Due D = Due.begin();
+    private static final String PAIR = ";pair 0 1";
     private static final String SEVEN = "guest 20 7;widow 9;general 14 14 1;child 40 6;saint 81 80;guest;widow 30 2 3";
 
     public static void main(String[] args) {
@@ -9,8 +10,11 @@ public final class ToldTest {
         faults();
         faultsBeyondBounds();
         faultsByWhatWasTold();
+        faultsOfAThirteenth();
         houses();
         laterHouses();
+        pairsBehindTexts();
+        fullOfPairs();
         houseRefused();
         persons();
         griefs();
@@ -137,20 +141,31 @@ public final class ToldTest {
         fault(seven, "pair 7 0", 5);
         fault(seven, "house;guest", -1);
         fault(seven, "house;pair 0 1", 11);
-        for (int k = 0; k < 11; k++) {
-            seven.pair(0, 1);
-        }
-        fault(seven, "pair 0 1", -1);
-        fault(seven, "pair 0 1;pair 0 1", 9);
-        seven.pair(0, 1);
-        fault(seven, "pair 9 9", 0);
-        fault(seven, "house;guest;guest;pair 0 1", -1);
-        String twelve = "house;guest;guest" + ";pair 0 1".repeat(12);
-        fault(seven, twelve, -1);
-        fault(seven, twelve + ";pair 0 1", 17 + 12 * 9 + 1);
-        fault(seven, twelve + ";pair", 17 + 12 * 9 + 1);
-        seven.unpair();
-        fault(seven, "pair 0 1", -1);
+    }
+
+    /** A thirteenth PAIR of texts: what pair() and unpair() do is not counted. */
+    private static void faultsOfAThirteenth() {
+        String twelve = "house;guest;guest" + PAIR.repeat(12);
+        GriefDoors x = new GriefDoors();
+        fault(x, twelve, -1);
+        fault(x, twelve + ";pair 0 1", 17 + 12 * 9 + 1);
+        fault(x, twelve + ";pair", 17 + 12 * 9 + 1);
+        Due.tell(x, "guest 9;guest 8" + PAIR.repeat(11));
+        fault(x, "pair 0 1", -1);
+        fault(x, "pair 0 1;pair 0 1", 9);
+        x.pair(0, 1);
+        fault(x, "pair 0 1", -1);
+        fault(x, "pair", 4);
+        fault(x, "pair 0 1;pair 0 1", 9);
+        x.unpair();
+        fault(x, "pair 0 1;pair 0 1", 9);
+        fault(x, "pair 0 1;house;guest;guest;pair 0 1;pair 0 1", -1);
+        Due.tell(x, "pair 1 0");
+        fault(x, "pair 9 9", 0);
+        fault(x, "house;guest;guest;pair 0 1", -1);
+        x.unpair();
+        fault(x, "pair 0 1", 0);
+        fault(x, "guest 3", -1);
     }
 
     private static void houses() {
@@ -203,7 +218,7 @@ public final class ToldTest {
         D.due(5, "grief(0, 1) as told", x.grief(0, 1), 4);
         D.due(5, "grief(1, 0) as told", x.grief(1, 0), 9);
         D.due(5, "grief(1, 1) as told", x.grief(1, 1), GriefDoors.NONE);
-        D.due(5, "pairs stay", x.count(1), 2);
+        D.due(5, "PAIRS of texts alone", x.count(1), 1);
         D.due(5, "LENT 0", x.count(2), 0);
         D.due(5, "nothing SEEN", x.count(6), 0);
         D.due(5, "no drawers", x.count(7), 0);
@@ -211,6 +226,58 @@ public final class ToldTest {
         D.due(5, "undone", x.undo(), GriefDoors.NOT);
         D.due(5, "back(0)", x.back(0), GriefDoors.NOT);
         D.due(5, "back(1)", x.back(1), GriefDoors.NOT);
+    }
+
+    /** Behind a text PAIRS are those that texts told, whatever pair() and unpair() did between. */
+    private static void pairsBehindTexts() {
+        GriefDoors x = Due.houseOf("guest 9;guest 8;guest 7;pair 2 1;pair 1 0");
+        x.pair(0, 2);
+        D.due(9, "ranked(NONE) in a ring", x.ranked(-1), 1);
+        Due.write(x, "pair 7 7");
+        D.due(5, "house() with a fault", x.house(), GriefDoors.NOT);
+        D.due(5, "count(1) behind the refused text", x.count(1), 3);
+        x.erase();
+        Due.tell(x, "saint 8");
+        D.due(5, "count(1), that of pair() gone", x.count(1), 2);
+        D.due(5, "ranked(NONE)", x.ranked(-1), 0);
+        D.due(5, "ranked(0)", x.ranked(0), 2);
+        x.unpair();
+        x.pair(0, 1);
+        x.pair(0, 2);
+        D.due(5, "wrong() of those of pair()", x.wrong(), 0);
+        Due.tell(x, "pair 3 2");
+        D.due(5, "count(1), those of texts again", x.count(1), 3);
+        D.due(5, "wrong()", x.wrong(), 3);
+        D.due(5, "ranked(0)", x.ranked(0), 3);
+        D.due(5, "ranked(1)", x.ranked(1), 2);
+        D.due(5, "ranked(2)", x.ranked(2), 1);
+        x.unpair();
+        Due.tell(x, "house;guest 3;guest 2");
+        D.due(5, "count(1) behind house", x.count(1), 0);
+        x.pair(1, 0);
+        Due.tell(x, "guest 1");
+        D.due(5, "count(1), as no text told any", x.count(1), 0);
+        D.due(9, "pair behind it", x.pair(2, 0), 1);
+        Due.tell(x, "pair 0 1;house;guest 3;guest 2;pair 0 1");
+        D.due(5, "count(1), those behind house", x.count(1), 1);
+        D.due(5, "wrong()", x.wrong(), 0);
+    }
+
+    /** Twelve at a time there can be, by texts and pair() together. */
+    private static void fullOfPairs() {
+        GriefDoors x = Due.houseOf("guest 9;guest 8" + PAIR.repeat(3));
+        for (int k = 4; k <= 12; k++) {
+            D.due(9, "pair " + k, x.pair(1, 0), k);
+        }
+        D.due(9, "pair 13", x.pair(1, 0), GriefDoors.FULL);
+        D.due(5, "house() of nine more", Due.tell(x, "pair 0 1" + PAIR.repeat(8)), 9);
+        D.due(5, "count(1)", x.count(1), 12);
+        D.due(5, "wrong(), as those of pair() are gone", x.wrong(), 0);
+        D.due(9, "pair 13", x.pair(1, 0), GriefDoors.FULL);
+        D.due(10, "unpair()", x.unpair(), 12);
+        D.due(9, "pair behind it", x.pair(1, 0), 1);
+        D.due(5, "house() of a guest", Due.tell(x, "guest 1"), 1);
+        D.due(10, "unpair() of those of texts", x.unpair(), 12);
     }
 
     private static void houseRefused() {
