@@ -16,22 +16,6 @@ public final class DrawersTest {
         D.end("DrawersTest");
     }
 
-    private static void fill(GriefDoors x, int drawer, int what, int... values) {
-        x.drawer(drawer, values.length);
-        for (int i = 0; i < values.length; i++) {
-            x.put(drawer, i, what, values[i]);
-        }
-    }
-
-    /** What a drawer has, number by number: the answer of take() as each place's own sort. */
-    private static String inside(GriefDoors x, int drawer, int what, int places) {
-        StringBuilder all = new StringBuilder();
-        for (int i = 0; i < places; i++) {
-            all.append(x.take(drawer, i, what) - (what == 0 ? 50000 : 0)).append(' ');
-        }
-        return all.toString();
-    }
-
     private static void drawers() {
         GriefDoors x = new GriefDoors();
         D.due(29, "drawer(4, 0)", x.drawer(4, 0), GriefDoors.UNKNOWN);
@@ -90,9 +74,9 @@ public final class DrawersTest {
 
     private static void takeRefused() {
         GriefDoors x = Due.houseOf("guest 1;guest 2");
-        fill(x, 0, 0, 5);
-        fill(x, 1, 1, 5);
-        fill(x, 2, 2, 1);
+        Houses.fill(x, 0, 0, 5);
+        Houses.fill(x, 1, 1, 5);
+        Houses.fill(x, 2, 2, 1);
         for (int drawer = 0; drawer < 3; drawer++) {
             for (int what = 0; what < 3; what++) {
                 int due = what != drawer ? GriefDoors.CAST : what == 0 ? 50005 : what == 1 ? 5 : 1;
@@ -110,21 +94,21 @@ public final class DrawersTest {
 
     private static void tidied() {
         GriefDoors x = Due.houseOf("guest 3;saint 1;widow 40;guest;general 9 9;guest 3;child 80");
-        fill(x, 0, 0, 3, -5, 9999, 0, -9999, 3, 12, -1, 7, 2);
+        Houses.fill(x, 0, 0, 3, -5, 9999, 0, -9999, 3, 12, -1, 7, 2);
         D.due(32, "tidy(0)", x.tidy(0), 10);
-        D.due(32, "numbers in order", inside(x, 0, 0, 10), "-9999 -5 -1 0 2 3 3 7 12 9999 ");
-        fill(x, 1, 1, 17575, 26, 25, 0);
+        D.due(32, "numbers in order", Houses.inside(x, 0, 0, 10), "-9999 -5 -1 0 2 3 3 7 12 9999 ");
+        Houses.fill(x, 1, 1, 17575, 26, 25, 0);
         D.due(32, "tidy(1)", x.tidy(1), 4);
-        D.due(32, "WORDS in order", inside(x, 1, 1, 4), "0 25 26 17575 ");
-        fill(x, 2, 2, 3, 0, 1, 2, 5, 4, 6, 0);
+        D.due(32, "WORDS in order", Houses.inside(x, 1, 1, 4), "0 25 26 17575 ");
+        Houses.fill(x, 2, 2, 3, 0, 1, 2, 5, 4, 6, 0);
         D.due(32, "tidy(2)", x.tidy(2), 8);
-        D.due(32, "PEOPLE as they go in", inside(x, 2, 2, 8), "2 6 4 0 0 5 1 3 ");
+        D.due(32, "PEOPLE as they go in", Houses.inside(x, 2, 2, 8), "2 6 4 0 0 5 1 3 ");
         x.lent(5);
         D.due(32, "tidy(2)", x.tidy(2), 8);
-        D.due(32, "PEOPLE as they go in behind 5 LENTS", inside(x, 2, 2, 8), "2 6 0 0 1 3 4 5 ");
+        D.due(32, "PEOPLE as they go in behind 5 LENTS", Houses.inside(x, 2, 2, 8), "2 6 0 0 1 3 4 5 ");
         x.drawer(3, 0);
         D.due(32, "tidy(3)", x.tidy(3), 0);
-        fill(x, 3, 2, 3);
+        Houses.fill(x, 3, 2, 3);
         D.due(32, "tidy(3) of one", x.tidy(3), 1);
     }
 
@@ -133,7 +117,7 @@ public final class DrawersTest {
         D.due(32, "tidy(4)", x.tidy(4), GriefDoors.UNKNOWN);
         D.due(32, "tidy(-1)", x.tidy(-1), GriefDoors.UNKNOWN);
         D.due(32, "tidy(0)", x.tidy(0), GriefDoors.NULL);
-        fill(x, 0, 0, 5, 3, 1);
+        Houses.fill(x, 0, 0, 5, 3, 1);
         x.put(0, 1, 1, 3);
         D.due(32, "tidy(0) of unlike things", x.tidy(0), GriefDoors.CAST);
         x.put(0, 2, 3, 0);
@@ -142,19 +126,19 @@ public final class DrawersTest {
         x.put(0, 2, 0, 1);
         x.put(0, 1, 2, 0);
         D.due(32, "tidy(0) of a number and a PERSON", x.tidy(0), GriefDoors.CAST);
-        fill(x, 1, 0, 5, 3);
+        Houses.fill(x, 1, 0, 5, 3);
         x.put(1, 0, 1, 5);
         D.due(32, "tidy(1), the first one unlike", x.tidy(1), GriefDoors.CAST);
     }
 
     private static void copied() {
         GriefDoors x = Due.houseOf("guest 3");
-        fill(x, 0, 0, 1, 2, 3, 4, 5);
+        Houses.fill(x, 0, 0, 1, 2, 3, 4, 5);
         D.due(33, "copy(0, 0, 0, 1, 4)", x.copy(0, 0, 0, 1, 4), 4);
-        D.due(33, "towards the end", inside(x, 0, 0, 5), "1 1 2 3 4 ");
-        fill(x, 0, 0, 1, 2, 3, 4, 5);
+        D.due(33, "towards the end", Houses.inside(x, 0, 0, 5), "1 1 2 3 4 ");
+        Houses.fill(x, 0, 0, 1, 2, 3, 4, 5);
         D.due(33, "copy(0, 2, 0, 0, 3)", x.copy(0, 2, 0, 0, 3), 3);
-        D.due(33, "towards the beginning", inside(x, 0, 0, 5), "3 4 5 4 5 ");
+        D.due(33, "towards the beginning", Houses.inside(x, 0, 0, 5), "3 4 5 4 5 ");
         x.drawer(1, 3);
         x.put(0, 1, 1, 77);
         x.put(0, 2, 3, 0);
@@ -171,7 +155,7 @@ public final class DrawersTest {
 
     private static void copyRefused() {
         GriefDoors x = new GriefDoors();
-        fill(x, 0, 0, 1, 2, 3, 4, 5);
+        Houses.fill(x, 0, 0, 1, 2, 3, 4, 5);
         x.drawer(1, 3);
         int[][] beyond = {
             {-1, 0, 1}, {0, -1, 1}, {0, 0, -1}, {6, 0, 0}, {0, 4, 0}, {5, 0, 1}, {0, 3, 1}, {3, 0, 3}, {0, 0, 4},

@@ -6,6 +6,8 @@ public final class OracleTest {
     private static final Due D = Due.begin();
     private static final int RUNS = 90;
     private static final int CALLS = 512;
+    /** No more calls than this fill the drawers. */
+    private static final int FILLING = 4 + 4 * 6;
     private static final String[] WORDS = {"guest", "widow", "general", "child", "saint", "guest", "widow", "child"};
     private static final int[] FAR = {Integer.MIN_VALUE, Integer.MAX_VALUE, -2, 61, 401, 10000, -10000, 17576, 256, 1000};
 
@@ -41,7 +43,7 @@ public final class OracleTest {
             } else {
                 one(random.nextInt(run % 3 == 2 ? 50 : 33));
             }
-            if (run % 3 == 2 && due.count(7) < 2) {
+            if (run % 3 == 2 && due.count(7) < 2 && calls + FILLING <= CALLS) {
                 fillDrawers();
             }
         }
@@ -52,9 +54,11 @@ public final class OracleTest {
             same("write", x.write(text.charAt(k)), due.write(text.charAt(k)), text.charAt(k));
         }
         told.append(" \"").append(text).append('"');
-        same("fault", x.fault(), due.fault());
-        same("house", x.house(), due.house());
-        same("erase", x.erase(), due.erase());
+        if (calls + 3 <= CALLS) {
+            same("fault", x.fault(), due.fault());
+            same("house", x.house(), due.house());
+            same("erase", x.erase(), due.erase());
+        }
     }
 
     private void fillDrawers() {

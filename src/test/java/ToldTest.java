@@ -59,82 +59,83 @@ public final class ToldTest {
         D.due(4, "fault() of '" + text + "'", Due.faultOf(x, text), want);
     }
 
+    private static void fault(String text, int want) {
+        fault(new GriefDoors(), text, want);
+    }
+
     private static void faults() {
-        GriefDoors x = new GriefDoors();
-        fault(x, "", 0);
-        fault(x, "   ", 3);
-        fault(x, "house", -1);
-        fault(x, "  house  ", -1);
-        fault(x, "house;", 6);
-        fault(x, "house; ", 7);
-        fault(x, ";house", 0);
-        fault(x, "house;;house", 6);
-        fault(x, "house ; house", -1);
-        fault(x, "house.", 5);
-        fault(x, "house 1", 6);
-        fault(x, "house house", 6);
-        fault(x, "House", 0);
-        fault(x, "hous", 0);
-        fault(x, "houses", 0);
-        fault(x, "youse", 0);
-        fault(x, "guestz", 0);
-        fault(x, "aguest", 0);
-        fault(x, "guest 9:", 7);
-        fault(x, "guest 9/", 7);
-        fault(x, "guest 9{", 7);
-        fault(x, "guest 9`", 7);
-        fault(x, "houseguest", 0);
-        fault(x, "hou se", 0);
-        fault(x, "guest\t1", 5);
-        fault(x, "guest \u00e9", 6);
-        fault(x, "12", 0);
-        fault(x, "guest", -1);
-        fault(x, "guest20 7", -1);
-        fault(x, "guest1;widow1;general1;child1;saint1", -1);
-        fault(x, "butler 3", 0);
-        fault(x, "guest 5 butler", 8);
-        fault(x, "guest 5 guest", 8);
-        fault(x, "guest 5,6", 7);
-        fault(x, "guest 5;pai", 8);
+        fault("", 0);
+        fault("   ", 3);
+        fault("house", -1);
+        fault("  house  ", -1);
+        fault("house;", 6);
+        fault("house; ", 7);
+        fault(";house", 0);
+        fault("house;;house", 6);
+        fault("house ; house", -1);
+        fault("house.", 5);
+        fault("house 1", 6);
+        fault("house house", 6);
+        fault("House", 0);
+        fault("hous", 0);
+        fault("houses", 0);
+        fault("youse", 0);
+        fault("guestz", 0);
+        fault("aguest", 0);
+        fault("guest 9:", 7);
+        fault("guest 9/", 7);
+        fault("guest 9{", 7);
+        fault("guest 9`", 7);
+        fault("houseguest", 0);
+        fault("hou se", 0);
+        fault("guest\t1", 5);
+        fault("guest \u00e9", 6);
+        fault("12", 0);
+        fault("guest", -1);
+        fault("guest20 7", -1);
+        fault("guest1;widow1;general1;child1;saint1", -1);
+        fault("butler 3", 0);
+        fault("guest 5 butler", 8);
+        fault("guest 5 guest", 8);
+        fault("guest 5,6", 7);
+        fault("guest 5;pai", 8);
     }
 
     private static void faultsBeyondBounds() {
-        GriefDoors x = new GriefDoors();
-        fault(x, "guest 0", 6);
-        fault(x, "guest 00", 6);
-        fault(x, "guest 01 1 99", -1);
-        fault(x, "guest 100", 6);
-        fault(x, "guest 001", 6);
-        fault(x, "guest 1 2 3", -1);
-        fault(x, "guest 1 2 3 4", 12);
-        fault(x, "saint 1 2 0", 10);
-        fault(x, "saint -1", 6);
+        fault("guest 0", 6);
+        fault("guest 00", 6);
+        fault("guest 01 1 99", -1);
+        fault("guest 100", 6);
+        fault("guest 001", 6);
+        fault("guest 1 2 3", -1);
+        fault("guest 1 2 3 4", 12);
+        fault("saint 1 2 0", 10);
+        fault("saint -1", 6);
         String clauses = "house";
         for (int k = 1; k < 20; k++) {
             clauses = clauses + ";house";
         }
-        fault(x, clauses, -1);
-        fault(x, clauses + ";", 119);
-        fault(x, clauses + " ;house", 120);
-        fault(x, clauses + " guest", 120);
+        fault(clauses, -1);
+        fault(clauses + ";", 119);
+        fault(clauses + " ;house", 120);
+        fault(clauses + " guest", 120);
     }
 
     private static void faultsByWhatWasTold() {
-        GriefDoors x = new GriefDoors();
-        fault(x, "pair 0 1", 5);
-        fault(x, "guest;pair 0", 12);
-        fault(x, "guest;pair 0 1", 13);
-        fault(x, "guest;pair", 10);
-        fault(x, "guest;guest;pair 0 0", 19);
-        fault(x, "guest;guest;pair 0 2", 19);
-        fault(x, "guest;guest;pair 000 1", 17);
-        fault(x, "guest;guest;pair 1 00", -1);
-        fault(x, "guest;guest;pair 0 1 0", 21);
-        fault(x, "guest;guest;house;pair 0 1", 23);
-        fault(x, "guest;pair 0 1;guest", 13);
-        fault(x, "guest;guest;guest;guest;guest;guest;guest", -1);
-        fault(x, "guest;guest;guest;guest;guest;guest;guest;saint 3", 42);
-        fault(x, "guest;guest;guest;guest;guest;guest;guest;house;saint 3", -1);
+        fault("pair 0 1", 5);
+        fault("guest;pair 0", 12);
+        fault("guest;pair 0 1", 13);
+        fault("guest;pair", 10);
+        fault("guest;guest;pair 0 0", 19);
+        fault("guest;guest;pair 0 2", 19);
+        fault("guest;guest;pair 000 1", 17);
+        fault("guest;guest;pair 1 00", -1);
+        fault("guest;guest;pair 0 1 0", 21);
+        fault("guest;guest;house;pair 0 1", 23);
+        fault("guest;pair 0 1;guest", 13);
+        fault("guest;guest;guest;guest;guest;guest;guest", -1);
+        fault("guest;guest;guest;guest;guest;guest;guest;saint 3", 42);
+        fault("guest;guest;guest;guest;guest;guest;guest;house;saint 3", -1);
         GriefDoors seven = Due.houseOf(SEVEN);
         fault(seven, "guest", 0);
         fault(seven, "pair 6 0", -1);
@@ -146,10 +147,10 @@ public final class ToldTest {
     /** A thirteenth PAIR of texts: what pair() and unpair() do is not counted. */
     private static void faultsOfAThirteenth() {
         String twelve = "house;guest;guest" + PAIR.repeat(12);
+        fault(twelve, -1);
+        fault(twelve + ";pair 0 1", 17 + 12 * 9 + 1);
+        fault(twelve + ";pair", 17 + 12 * 9 + 1);
         GriefDoors x = new GriefDoors();
-        fault(x, twelve, -1);
-        fault(x, twelve + ";pair 0 1", 17 + 12 * 9 + 1);
-        fault(x, twelve + ";pair", 17 + 12 * 9 + 1);
         Due.tell(x, "guest 9;guest 8" + PAIR.repeat(11));
         fault(x, "pair 0 1", -1);
         fault(x, "pair 0 1;pair 0 1", 9);
