@@ -51,7 +51,7 @@ public final class EdgesAskedTest {
     // ---- person
 
     private static void whatOfAPerson() {
-        Sentence s = says(6, "KIND (what 0), LOAD (1), how many GRIEFS (2), by how much these FADE (3), as the how manieth one goes in (4");
+        Sentence s = says(6, "KIND (what 0), LOAD (1), how many GRIEFS (2), by how much these FADE (3)");
         int[] due = {1, 17 + 17, 1, 1, 4};
         for (int what = 0; what < 5; what++) {
             int asked = what;

@@ -154,10 +154,11 @@ public final class EdgesForetoldTest {
     private static void noneGoesIn() {
         Sentence s = says(18, "others do not go in");
         GriefDoors x = Due.houseOf("saint 1;guest;guest 1;saint 2;child");
+        GriefDoors oneOfSeven = Due.houseOf("guest;guest;guest;saint 1;guest 4;guest;guest");
         int[] due = {2, 3, NONE, NONE, NONE, NONE, NONE};
         for (int k = 0; k < 7; k++) {
             s.is("enters(" + k + ", 0) of two", x.enters(k, 0), due[k]);
-            s.is("enters(" + k + ", 0) of one of seven", Due.houseOf("guest;guest;guest;saint 1;guest 4;guest;guest").enters(k, 0), k == 0 ? 4 : NONE);
+            s.is("enters(" + k + ", 0) of one of seven", oneOfSeven.enters(k, 0), k == 0 ? 4 : NONE);
             s.is("enters(" + k + ", 0) of nobody", new GriefDoors().enters(k, 0), NONE);
             s.is("enters(" + k + ", 0) of none who goes in", Due.houseOf("guest;saint 1").enters(k, 0), NONE);
         }
