@@ -78,12 +78,17 @@ public final class LanguageTest {
         return all.append(')').toString();
     }
 
+    private static boolean isOfTheFace(String name) {
+        return FACE.stream().anyMatch(one -> one.startsWith("int " + name + "("));
+    }
+
     private static void inside(Class<?> one) {
         int modifiers = one.getModifiers();
         D.isSo(one + " is static", Modifier.isStatic(modifiers));
         D.isSo(one + " is not public", !Modifier.isPublic(modifiers) && !Modifier.isProtected(modifiers));
         for (Method method : one.getDeclaredMethods()) {
             D.isSo(method + " takes seven at most", method.getParameterCount() <= 7);
+            D.isSo(method + " bears its own name", !Modifier.isPrivate(method.getModifiers()) || !isOfTheFace(method.getName()));
         }
     }
 
